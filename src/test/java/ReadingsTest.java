@@ -126,6 +126,12 @@ public final class ReadingsTest {
         x.reading(1, 3, false);
         c.due("bold, how many", x.knew(1, 0), 32);
         c.due("bold, the fewest", x.knew(1, 1), 8);
+        x.back(1);
+        for (int q = 0; q < 6; q++) {
+            x.reading(0, q, false);
+        }
+        c.due("all six, how many", x.knew(0, 0), 1);
+        c.due("all six, the fewest", x.knew(0, 1), 63);
         c.due("the list stays", x.ofMan(0, 2), 1);
         c.due("knew(2, 9)", x.knew(2, 9), -1);
         c.due("knew(-1, 0)", x.knew(-1, 0), -1);

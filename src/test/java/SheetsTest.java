@@ -84,6 +84,7 @@ public final class SheetsTest {
         c.dueFault("cell(3, 99, 1)", x, x.cell(3, 99, 1), lost, 1);
         c.dueFault("cell(0, 15, 0)", x, x.cell(0, 15, 0), lost, 3);
         c.dueFault("cell(0, -1, 0)", x, x.cell(0, -1, 0), lost, 3);
+        c.dueFault("refused behind a fault", x, x.cell(4, 0, 0), lost, 0);
         c.dueFault("cell(0, 14, 0)", x, x.cell(0, 14, 0), 0, 0);
         // a row that is lost has no lane
         x.lose(0);

@@ -63,6 +63,14 @@ public final class StormsTest {
         c.due("a spiteful one never helps", x.teach(2, 1, 2, 0, 1), -9);
         Checks.write(x, 1, 2, 0, 0);
         c.due("a spiteful one who does not harm", x.teach(2, 1, 2, 0, 1), 0);
+        Checks.write(x, 1, 2, 1, 0, 1, 1, 1, 2, 1, 3, 1, 4, 1, 5);
+        x.stand(0, 1);
+        x.stand(1, 0);
+        x.learn(0, 0);
+        c.due("all six", x.teach(0, 1, 2, 0, 6), 63);
+        c.due("five of them", x.teach(0, 1, 2, 2, 5), 62);
+        x.learn(0, 1);
+        c.due("five more", x.teach(0, 1, 2, 0, 6), 62);
         c.due("none learnt", x.ofMan(0, 2), 1);
         c.due("none learnt, bold", x.ofMan(1, 2), 0);
     }
@@ -132,6 +140,7 @@ public final class StormsTest {
         c.dueFault("which -1", x, x.fair(1, 2, 0, 1, -1), lost, 0);
         c.dueFault("another lane", x, x.fair(1, 2, 9, 1, 0), lost, 2);
         c.dueFault("nothing", x, x.fair(2, 2, 9, 1, 0), lost, 1);
+        c.dueFault("refused behind a fault", x, x.fair(4, 1, 0, 1, 0), lost, 0);
         c.dueFault("beyond", x, x.fair(1, 1, 1, 2, 0), lost, 3);
         c.dueFault("i 3, none taken", x, x.fair(1, 1, 3, 0, 0), lost, 3);
         c.dueFault("no county", x, x.fair(1, 1, 0, 1, 0), lost, 0);
@@ -139,6 +148,7 @@ public final class StormsTest {
         Checks.write(x, 1, 1, 0, 4, -1);
         c.dueFault("parish 4", x, x.fair(1, 1, 0, 2, 0), lost, 0);
         c.dueFault("parish -1", x, x.fair(1, 1, 2, 1, 0), lost, 0);
+        c.dueFault("another lane, with a county", x, x.fair(1, 2, 0, 1, 0), lost, 2);
     }
 
     private static void worth() {
