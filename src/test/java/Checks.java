@@ -14,6 +14,19 @@ final class Checks {
         }
     }
 
+    /** An answer as due, counted without a text being made for it. */
+    void alike() {
+        asked++;
+    }
+
+    void same(String call, String got, String want) {
+        asked++;
+        if (!got.equals(want)) {
+            wrong++;
+            System.out.println(call + ": got " + got + ", due is " + want);
+        }
+    }
+
     /** A call that names faults: its answer, and what fault() tells behind it. */
     void dueFault(String call, ThunderAsks x, long got, long want, int fault) {
         due(call, got, want);

@@ -1,58 +1,31 @@
 import java.lang.reflect.Method;
-import java.util.Arrays;
 import java.util.Random;
 
 /** All promises: runs of 512 calls, by a fixed seed, answered as PlainModel answers them. */
 public final class ModelTest {
-    private static final int RUNS = 400, CALLS = 512;
+    private static final int RUNS = 400;
     private static final int[] EDGES = {Integer.MIN_VALUE, -2, -1, 0, 1, 2, 3, 4, 5, 6, 9, 12, 13, 15, 16, 20, 21,
         59, 60, 61, 63, 64, 100, 255, 40000, Integer.MAX_VALUE};
     private static final String CODES = "d0123456,mbs789:/x";
 
     private static final Checks c = new Checks();
     private static final Random random = new Random(20261118);
-    private static final Method[] calls = calls();
+    private static final Method[] calls = Beside.face();
 
-    private static ThunderAsks asks;
-    private static PlainModel model;
-    private static int run;
-    private static int left;
+    private static Beside both;
 
     public static void main(String[] args) throws Exception {
-        for (run = 0; run < RUNS; run++) {
-            asks = new ThunderAsks();
-            model = new PlainModel();
-            left = CALLS;
-            while (left > 0) {
+        for (int run = 0; run < RUNS; run++) {
+            both = new Beside(c, "run " + run);
+            while (both.callsLeft() > 0) {
                 act(random.nextInt(40));
             }
         }
         c.end("ModelTest");
     }
 
-    /** Calls in an order that is the same on every machine. */
-    private static Method[] calls() {
-        Method[] found = ThunderAsks.class.getDeclaredMethods();
-        Method[] open = Arrays.stream(found).filter(m -> java.lang.reflect.Modifier.isPublic(m.getModifiers()))
-            .toArray(Method[]::new);
-        Arrays.sort(open, (a, b) -> a.getName().compareTo(b.getName()));
-        return open;
-    }
-
     private static void call(String name, int... a) throws Exception {
-        if (left-- <= 0) {
-            return;
-        }
-        for (Method method : calls) {
-            if (method.getName().equals(name)) {
-                Object[] given = new Object[a.length];
-                for (int t = 0; t < a.length; t++) {
-                    given[t] = method.getParameterTypes()[t] == boolean.class ? (Object) (a[t] != 0) : a[t];
-                }
-                long got = ((Number) method.invoke(asks, given)).longValue();
-                c.due("run " + run + ": " + name + Arrays.toString(a), got, model.answer(name, a));
-            }
-        }
+        both.ask(name, a);
     }
 
     private static void act(int choice) throws Exception {
@@ -69,13 +42,6 @@ public final class ModelTest {
         }
         if (random.nextInt(4) == 0) {
             call("fault");
-        }
-    }
-
-    private static void write(int k, int lane, int[] cells) throws Exception {
-        call("sheet", k, lane, cells.length);
-        for (int i = 0; i < cells.length; i++) {
-            call("put", k, i, cells[i]);
         }
     }
 
@@ -99,7 +65,7 @@ public final class ModelTest {
         for (int t = 0; t < text.length(); t++) {
             cells[ahead + t] = text.charAt(t);
         }
-        write(k, lane, cells);
+        both.write(k, lane, cells);
         call("county", k, lane, ahead, text.length());
         for (int what = 0; what < 4; what++) {
             call("many", what);
@@ -118,13 +84,13 @@ public final class ModelTest {
         int[] cells = new int[2 * n];
         int few = 1 + random.nextInt(6);
         for (int t = 0; t < n; t++) {
-            cells[2 * t] = random.nextInt(Math.max(1, Math.min(few, model.parishes)));
+            cells[2 * t] = random.nextInt(Math.max(1, Math.min(few, both.model.parishes)));
             cells[2 * t + 1] = random.nextInt(few);
         }
         if (n > 0 && random.nextInt(10) == 0) {
             cells[random.nextInt(2 * n)] = 6;
         }
-        write(k, lane, cells);
+        both.write(k, lane, cells);
         for (int what = 0; what < 3; what++) {
             call("storm", k, lane, 0, n, what);
         }
@@ -142,21 +108,21 @@ public final class ModelTest {
     /** Mostly readings that are so, so that something is left by them. */
     private static void likelyReadings() throws Exception {
         for (int t = random.nextInt(4); t > 0; t--) {
-            int p = random.nextInt(Math.max(1, model.parishes));
+            int p = random.nextInt(Math.max(1, both.model.parishes));
             int q = random.nextInt(6);
-            boolean so = model.answer("strikes", new int[] {p, q}) == 1;
+            boolean so = both.model.answer("strikes", new int[] {p, q}) == 1;
             call("reading", p, q, so == (random.nextInt(6) > 0) ? 1 : 0);
         }
         for (int what : new int[] {0, 1, 10, 13, 15}) {
             call("truths", what);
         }
-        for (int m = 0; m < model.kind.length; m++) {
+        for (int m = 0; m < both.model.kind.length; m++) {
             call("stood", m);
             call("kinds", m);
             call("knew", m, 0);
             call("knew", m, 1);
         }
-        call("back", random.nextInt(model.readings.size() + 1));
+        call("back", random.nextInt(both.model.readings.size() + 1));
     }
 
     private static void wild() throws Exception {
